@@ -325,19 +325,20 @@ public final class ShadowWard {
     }
 
     private void tell(int kind, int address, int n, int readOrWrite) {
-        if (reports.size() < MOST_KEPT) {
-            reports.add(new Report(kind, address, n, readOrWrite, nearestTo(address)));
+        if (reports.size() >= MOST_KEPT) {
+            return;
         }
-    }
-
-    private Region nearestTo(int address) {
-        if (!memory.isAddress(address)) {
-            return null;
+        Region nearest = null;
+        if (memory.isAddress(address)) {
+            if (address < memory.stackStart) {
+                nearest = globals.nearestTo(address);
+            } else if (address < memory.heapStart) {
+                nearest = frames.nearestTo(address);
+            } else {
+                nearest = heap.nearestTo(address);
+            }
         }
-        if (address < memory.stackStart) {
-            return globals.nearestTo(address);
-        }
-        return address < memory.heapStart ? frames.nearestTo(address) : heap.nearestTo(address);
+        reports.add(new Report(kind, address, n, readOrWrite, nearest));
     }
 
     private static Region nearer(Region best, Region other, int address) {

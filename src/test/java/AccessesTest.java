@@ -383,5 +383,10 @@ public final class AccessesTest {
         kind(w, 559, 2);
         kind(w, 560, 1);
         kind(w, 2048, 9);
+        // One good byte in a granule is the least by which the next one is looked at.
+        w.enter(1, 0, 0, 0);
+        kind(w, w.variable(0, 0) + 1, 4);
+        w.allocate(0, 9, 1);
+        kind(w, w.block(1, 0) + 9, 1);
     }
 }

@@ -57,6 +57,12 @@ final class Check {
         refused(ward, what, call, IllegalStateException.class);
     }
 
+    /** Whether a throw statement of the class made it, and not the library that the class uses. */
+    static boolean isThrownByTheWard(RuntimeException e) {
+        StackTraceElement[] trace = e.getStackTrace();
+        return trace.length > 0 && trace[0].getClassName().startsWith("ShadowWard");
+    }
+
     // Of the very class, for what the machine throws is of classes below these; and nothing may be changed.
     private void refused(ShadowWard ward, String what, Call call, Class<?> due) {
         looked++;
@@ -64,8 +70,8 @@ final class Check {
         try {
             fail(what + " answered " + call.answer() + ", due is " + due.getName());
         } catch (RuntimeException e) {
-            if (e.getClass() != due) {
-                fail(what + " threw " + e + ", due is " + due.getName());
+            if (!isThrownByTheWard(e) || e.getClass() != due) {
+                fail(what + " threw " + e + ", due is " + due.getName() + " by a throw of the class");
             }
         }
         if (!before.equals(stateOf(ward))) {

@@ -8,6 +8,7 @@ public final class ToldTest {
         reportOfGlobals();
         reportOfVariables();
         reportOfBlocks();
+        reportOfTheLeastAddress();
         reportOfBlocksWithoutBytes();
         reportStaysAsItWas();
         reportRefusesWhatIsNot();
@@ -20,6 +21,8 @@ public final class ToldTest {
         lostFollowsBlocks();
         lostReadsWholeWords();
         lostAlone();
+        lostIsSearchedAnew();
+        lostAloneReadsWholeWords();
         toldCounts();
         check.finish();
     }
@@ -101,6 +104,24 @@ public final class ToldTest {
         w.allocate(1, 1024, 1);
         near(w, 272, 0, NONE, 0, 0);
         check.same("given", w.report(w.told(6) - 1, 8), 0);
+    }
+
+    private static void reportOfTheLeastAddress() {
+        ShadowWard w = new ShadowWard(1024, 0);
+        w.allocate(0, 16, 1);
+        w.allocate(0, 16, 2);
+        w.free(0, 272, 3);
+        check.same("the younger one lies below", w.allocate(0, 15, 4), 272);
+        // 303 is 17 behind the end of block 2 and 17 before block 1.
+        near(w, 303, 3, 2, 17, 1);
+        ShadowWard stack = new ShadowWard(4096, 0);
+        stack.enter(31, 0, 0, 0);
+        stack.enter(31, 0, 0, 0);
+        int inner = stack.variable(1, 0);
+        int outer = stack.variable(0, 0);
+        // The inner one's end is outer - 65: 33 behind it there are 33 to the outer one.
+        near(stack, inner + 31 + 32, 2, 4, 33, 1);
+        near(stack, inner + 31 + 33, 2, 0, outer - inner - 64, 2);
     }
 
     private static void reportOfBlocksWithoutBytes() {
@@ -329,11 +350,40 @@ public final class ToldTest {
         w.store(0, 4, 672);
         w.store(624, 4, 672);
         alone(w, "found", 2);
+        check.yes("the ring is opened", w.store(580, 4, 0));
+        alone(w, "the ring is opened", 0, 2);
+        check.yes("by the last word", w.store(576 + 12, 4, 528));
+        alone(w, "the ring is closed by the last word", 2);
         check.same("from 3", w.lost(3, true), NONE);
         check.same("below all", w.lost(-9, true), 2);
         w.store(4, 4, 576);
         alone(w, "the ring is found", 2);
         lost(w, "the ring is found", 2);
+    }
+
+    private static void lostIsSearchedAnew() {
+        ShadowWard w = wardWithBlocks();
+        w.store(0, 4, 528);
+        check.same("found, as the first call", w.lost(0, false), 1);
+        w.store(4, 4, 576);
+        check.same("found, then alone", w.lost(0, true), 2);
+        w.store(0, 4, 0);
+        check.same("not found any more", w.lost(0, true), 0);
+    }
+
+    private static void lostAloneReadsWholeWords() {
+        ShadowWard w = new ShadowWard(2048, 100);
+        check.same("0", w.allocate(0, 16, 1), 528);
+        check.same("1", w.allocate(0, 16, 1), 576);
+        w.store(576, 4, 528);
+        w.store(580, 4, 528);
+        alone(w, "two words lead to it", 1);
+        w.free(0, 576, 1);
+        w.allocate(0, 1024, 1);
+        w.allocate(0, 1025, 1);
+        check.same("its place is given again", w.allocate(0, 3, 1), 576);
+        check.same("with bytes of the old one behind it", w.peek(580), 528 & 255);
+        check.same("first alone", w.lost(0, true), 0);
     }
 
     private static void toldCounts() {
