@@ -145,25 +145,19 @@ public final class AccessesTest {
         }
     }
 
-    private static void bytes(String what, ShadowWard w, int address, int... due) {
-        for (int i = 0; i < due.length; i++) {
-            check.same(what + ": byte " + (address + i), w.peek(address + i), due[i]);
-        }
-    }
-
     private static void copyMovesBytes() {
         ShadowWard w = ward();
         write(w, 10, 1, 2, 3, 4, 5, 6, 7, 8);
         check.yes("rows that touch", w.copy(18, 10, 8, false));
-        bytes("rows that touch", w, 10, 1, 2, 3, 4, 5, 6, 7, 8, 1, 2, 3, 4, 5, 6, 7, 8, 0);
+        check.bytes("rows that touch", w, 10, 1, 2, 3, 4, 5, 6, 7, 8, 1, 2, 3, 4, 5, 6, 7, 8, 0);
         check.yes("up", w.copy(12, 10, 8, true));
-        bytes("up", w, 10, 1, 2, 1, 2, 3, 4, 5, 6, 7, 8, 3);
+        check.bytes("up", w, 10, 1, 2, 1, 2, 3, 4, 5, 6, 7, 8, 3);
         check.yes("down", w.copy(11, 13, 7, true));
-        bytes("down", w, 10, 1, 2, 3, 4, 5, 6, 7, 8, 7, 8, 3);
+        check.bytes("down", w, 10, 1, 2, 3, 4, 5, 6, 7, 8, 7, 8, 3);
         check.yes("onto itself", w.copy(10, 10, 8, true));
-        bytes("onto itself", w, 10, 1, 2, 3, 4, 5, 6, 7, 8, 7);
+        check.bytes("onto itself", w, 10, 1, 2, 3, 4, 5, 6, 7, 8, 7);
         check.yes("into a block", w.copy(528, 10, 30, false));
-        bytes("into a block", w, 527, 0, 1, 2, 3);
+        check.bytes("into a block", w, 527, 0, 1, 2, 3);
         for (int address : new int[] {-1, 50, 5000, Integer.MIN_VALUE, Integer.MAX_VALUE}) {
             check.yes("nothing at " + address, w.copy(address, address, 0, false));
         }
@@ -182,7 +176,7 @@ public final class AccessesTest {
         check.no("down", w.copy(0, 3, 4, false));
         check.report("down", w, 1, 13, 0, 4, 1, 1, 0, 0, 0, 0, 0);
         check.no("the same", w.copy(4, 4, 1, false));
-        bytes("nothing was done", w, 0, 1, 2, 3, 4, 5, 6, 7, 8);
+        check.bytes("nothing was done", w, 0, 1, 2, 3, 4, 5, 6, 7, 8);
         check.no("before what is not good", w.copy(527, 520, 30, false));
         check.report("before what is not good", w, 3, 13, 527, 30, 1, 3, 0, 1, 2, 17, 0);
         check.no("before what is no address", w.copy(-7, -5, 3, false));
@@ -200,7 +194,7 @@ public final class AccessesTest {
         check.report("both are wrong", w, 0, 7, 40, 20, 0, 1, 0, 1, 1, 0, 0);
         check.no("the writing is wrong", w.copy(550, 0, 20, false));
         check.report("the writing is wrong", w, 1, 1, 558, 20, 1, 3, 0, 1, 1, 17, 0);
-        bytes("nothing was done", w, 550, 190, 190);
+        check.bytes("nothing was done", w, 550, 190, 190);
         check.no("a move that is wrong", w.copy(30, 25, 20, true));
         check.report("a move that is wrong", w, 2, 7, 40, 20, 0, 1, 0, 1, 1, 0, 0);
         check.same("one report each", w.told(6), 3);
@@ -234,11 +228,11 @@ public final class AccessesTest {
         ShadowWard w = ward();
         write(w, 0, 1, 2, 3);
         check.same("text", w.text(528, 0), 3);
-        bytes("text", w, 528, 1, 2, 3, 0, 190);
+        check.bytes("text", w, 528, 1, 2, 3, 0, 190);
         check.same("only its end", w.text(530, 3), 0);
-        bytes("only its end", w, 528, 1, 2, 0, 0, 190);
+        check.bytes("only its end", w, 528, 1, 2, 0, 0, 190);
         check.same("rows that touch", w.text(4, 0), 3);
-        bytes("rows that touch", w, 0, 1, 2, 3, 0, 1, 2, 3, 0);
+        check.bytes("rows that touch", w, 0, 1, 2, 3, 0, 1, 2, 3, 0);
         check.same("to the last byte", w.text(36, 0), 3);
         check.same("nothing was wrong", w.told(6), 0);
     }
@@ -256,7 +250,7 @@ public final class AccessesTest {
         check.report("onto itself from below", w, 3, 13, -3, 4, 1, 0, NONE, 0, 0, 0, 0);
         check.same("writing", w.text(555, 0), NONE);
         check.report("writing", w, 4, 1, 558, 4, 1, 3, 0, 1, 1, 17, 0);
-        bytes("nothing was done", w, 555, 190, 190, 190);
+        check.bytes("nothing was done", w, 555, 190, 190, 190);
         check.same("to no address", w.text(Integer.MAX_VALUE, 0), NONE);
         check.report("to no address", w, 5, 9, Integer.MAX_VALUE, 4, 1, 0, NONE, 0, 0, 0, 0);
         check.same("one report each", w.told(6), 6);

@@ -45,6 +45,28 @@ final class Check {
         }
     }
 
+    void bytes(String what, ShadowWard ward, int address, int... due) {
+        for (int k = 0; k < due.length; k++) {
+            same(what + ": peek(" + (address + k) + ")", ward.peek(address + k), due[k]);
+        }
+    }
+
+    /** One block, its eight answers in a row. */
+    void block(String what, ShadowWard ward, int number, int... due) {
+        for (int k = 0; k < due.length; k++) {
+            same(what + ": block(" + number + ", " + k + ")", ward.block(number, k), due[k]);
+        }
+    }
+
+    /** A call that is answered, but leaves everything as it was. */
+    void changesNothing(ShadowWard ward, String what, Call call, long due) {
+        String before = stateOf(ward);
+        same(what, call.answer(), due);
+        if (!before.equals(stateOf(ward))) {
+            fail(what + " changed something");
+        }
+    }
+
     void illegalArgument(ShadowWard ward, String what, Call call) {
         refused(ward, what, call, IllegalArgumentException.class);
     }
@@ -79,6 +101,7 @@ final class Check {
         }
     }
 
+    // More than 512 calls, the answers to which the document leaves free: the class goes on as before.
     /** All that the calls of the last part tell. */
     static String stateOf(ShadowWard ward) {
         StringBuilder all = new StringBuilder();

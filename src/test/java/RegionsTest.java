@@ -129,9 +129,7 @@ public final class RegionsTest {
 
     private static void enterEndsWithTheStack() {
         ShadowWard w = new ShadowWard(1024, 0);
-        String before = Check.stateOf(w);
-        check.same("160 bytes in 128", w.enter(1, 1, 0, 0), NONE);
-        check.same("nothing is changed", Check.bit(before.equals(Check.stateOf(w))), 1);
+        check.changesNothing(w, "160 bytes in 128", () -> w.enter(1, 1, 0, 0), NONE);
         check.same("128 bytes in 128", w.enter(0, 0, 64, 0), 128);
         check.same("no more", w.enter(1, 0, 0, 0), NONE);
         check.same("frames", w.told(3), 1);
@@ -281,7 +279,7 @@ public final class RegionsTest {
         for (int i = 0; i < 4; i++) {
             at[i] = w.allocate(0, 128, i);
         }
-        check.same("192 bytes each: no fifth", w.told(4), 4);
+        check.same("176 bytes each", w.told(9), 4 * 176);
         check.same("last place", at[3], 256 + 3 * 176 + 32);
         w.free(0, at[2], 9);
         w.free(0, at[1], 9);
