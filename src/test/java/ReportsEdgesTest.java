@@ -401,6 +401,18 @@ public final class ReportsEdgesTest {
                 lost(w, "no word at " + at, 0);
             }
         }
+        for (int at = 0; at <= 12; at++) {
+            ShadowWard w = new ShadowWard(1024, 0);
+            w.allocate(0, 16, 0);
+            w.allocate(0, 16, 0);
+            w.fill(272, 16, 0);
+            w.store(272 + at, 4, 320);
+            if (at % 4 == 0) {
+                alone(w, "a word of a lost one at " + at, 0);
+            } else {
+                alone(w, "no word of a lost one at " + at, 0, 1);
+            }
+        }
         ShadowWard turned = new ShadowWard(1024, 0);
         turned.global(4);
         turned.allocate(0, 16, 0);
